@@ -373,6 +373,17 @@ public final class GridRiddles {
             return made;
         }
 
+        /** What tells the GRIDS that do not meet this clue; for nothing but finding GRIDS. */
+        Clue opposite() {
+            Clue made = new Clue(kind, x, y, z, place);
+            made.low = low;
+            made.high = high;
+            for (int entry = 0; entry < 16; entry++) {
+                made.allowed[entry] = ALL_ORDERS & ~allowed[entry];
+            }
+            return made;
+        }
+
         int items() {
             return kind == FIXED ? 1 : kind == EITHER ? 3 : 2;
         }
@@ -503,6 +514,8 @@ public final class GridRiddles {
         private final int[] order = new int[CATEGORIES];
         private int ordersOfC;
         private int ordersOfD;
+        /** How many GRIDS are still to be passed over. */
+        private int rest;
 
         void choose(Clues clues, int set) {
             Arrays.fill(alone, ALL_ORDERS);
@@ -556,25 +569,35 @@ public final class GridRiddles {
         }
 
         int total() {
-            int sum = 0;
-            for (int a = 0; a < ORDERS; a++) {
-                if (isIn(alone[0], a)) {
-                    sum += totalWithA(a);
-                }
-            }
-            return sum;
+            passOver(Integer.MAX_VALUE);
+            return Integer.MAX_VALUE - rest;
         }
 
-        private int totalWithA(int a) {
-            order[0] = a;
-            int ordersOfB = alone[1] & pairs[A_B + a];
-            int sum = 0;
-            for (int b = 0; b < ORDERS; b++) {
-                if (isIn(ordersOfB, b)) {
-                    sum += totalWithB(b);
+        /** Passes over that many GRIDS and looks at the next one: whether there is one. */
+        boolean passOver(int many) {
+            rest = many;
+            for (int a = 0; a < ORDERS; a++) {
+                if (isIn(alone[0], a) && passOverWithA(a)) {
+                    return true;
                 }
             }
-            return sum;
+            return false;
+        }
+
+        private boolean passOverWithA(int a) {
+            order[0] = a;
+            int ordersOfB = alone[1] & pairs[A_B + a];
+            for (int b = 0; b < ORDERS; b++) {
+                if (isIn(ordersOfB, b)) {
+                    int more = totalWithB(b);
+                    if (rest < more) {
+                        lookAtC();
+                        return true;
+                    }
+                    rest -= more;
+                }
+            }
+            return false;
         }
 
         private int totalWithB(int b) {
@@ -618,48 +641,21 @@ public final class GridRiddles {
             return orders;
         }
 
-        /** Looks at the GRID with that many before it; whether there is one. */
-        boolean find(int before) {
-            int rest = before;
-            for (int a = 0; a < ORDERS; a++) {
-                int more = isIn(alone[0], a) ? totalWithA(a) : 0;
-                if (rest < more) {
-                    findB(rest);
-                    return true;
-                }
-                rest -= more;
-            }
-            return false;
-        }
-
-        private void findB(int before) {
-            int ordersOfB = alone[1] & pairs[A_B + order[0]];
-            int rest = before;
-            for (int b = 0; b < ORDERS; b++) {
-                int more = isIn(ordersOfB, b) ? totalWithB(b) : 0;
-                if (rest < more) {
-                    findC(rest);
-                    return;
-                }
-                rest -= more;
-            }
-        }
-
-        private void findC(int before) {
-            int rest = before;
+        private void lookAtC() {
             for (int c = 0; c < ORDERS; c++) {
-                int orders = isIn(ordersOfC, c) ? ordersOfDWithC(c) : 0;
-                int more = Integer.bitCount(orders);
-                if (rest < more) {
-                    findD(orders, rest);
-                    return;
+                if (isIn(ordersOfC, c)) {
+                    int orders = ordersOfDWithC(c);
+                    int more = Integer.bitCount(orders);
+                    if (rest < more) {
+                        lookAtD(orders);
+                        return;
+                    }
+                    rest -= more;
                 }
-                rest -= more;
             }
         }
 
-        private void findD(int orders, int before) {
-            int rest = before;
+        private void lookAtD(int orders) {
             for (int d = 0; d < ORDERS; d++) {
                 if (isIn(orders, d)) {
                     if (rest == 0) {
@@ -716,7 +712,7 @@ public final class GridRiddles {
         int placeIn(int i, int item) {
             if (i != keptAnswer) {
                 grids.choose(clues, clues.all());
-                if (!grids.find(i)) {
+                if (!grids.passOver(i)) {
                     return NONE;
                 }
                 for (int k = 0; k < ITEMS; k++) {
@@ -729,10 +725,9 @@ public final class GridRiddles {
 
         int needlessSet() {
             if (knownNeedless == NONE) {
-                int all = clues.all();
                 int set = 0;
                 for (int k = 0; k < clues.size; k++) {
-                    if (meeting(all & ~(1 << k)) == total()) {
+                    if (isNeedlessAmong(clues.all(), k)) {
                         set |= 1 << k;
                     }
                 }
@@ -745,14 +740,23 @@ public final class GridRiddles {
             if (knownCore == NONE) {
                 int set = clues.all();
                 for (int k = clues.size - 1; k >= 0; k--) {
-                    int without = set & ~(1 << k);
-                    if (meeting(without) == total()) {
-                        set = without;
+                    if (isNeedlessAmong(set, k)) {
+                        set &= ~(1 << k);
                     }
                 }
                 knownCore = set;
             }
             return knownCore;
+        }
+
+        /**
+         * Without a clue there are more ANSWERS just if a GRID meets the others, but not it; to find one such
+         * GRID takes far less than to count them all.
+         */
+        private boolean isNeedlessAmong(int set, int clue) {
+            grids.choose(clues, set & ~(1 << clue));
+            grids.take(clues.row[clue].opposite());
+            return !grids.passOver(0);
         }
     }
 
