@@ -12,8 +12,8 @@ public final class GridRiddles {
     private final Text text = new Text();
     private final Clues clues = new Clues();
     private final Clues[] images = new Clues[IMAGES];
-    private final Answers found = new Answers(clues);
-    private final Strikes strikes = new Strikes(clues);
+    private final Answers found = new Answers();
+    private final Strikes strikes = new Strikes();
     private int keptImages = 0;
     private int latestFault = NONE;
 
@@ -91,21 +91,21 @@ public final class GridRiddles {
     // ---- 2 answers
 
     public int answers() {
-        return found.total();
+        return found.total(clues);
     }
 
     public int answer(int i, int item) {
         if (i < 0 || !isItem(item)) {
             return OUTSIDE;
         }
-        return found.placeIn(i, item);
+        return found.placeIn(clues, i, item);
     }
 
     public int often(int item, int place) {
         if (!isItem(item) || !isPlace(place)) {
             return OUTSIDE;
         }
-        return found.totalWith(Clue.of(FIXED, item, NONE, NONE, place));
+        return found.totalWith(clues, Clue.of(FIXED, item, NONE, NONE, place));
     }
 
     public int together(int one, int other) {
@@ -113,28 +113,28 @@ public final class GridRiddles {
             return OUTSIDE;
         }
         if (one == other) {
-            return found.total();
+            return found.total(clues);
         }
-        return found.totalWith(Clue.of(SAME, one, other, NONE, NONE));
+        return found.totalWith(clues, Clue.of(SAME, one, other, NONE, NONE));
     }
 
     public int met(int set) {
         if ((set & ~clues.all()) != 0) {
             return OUTSIDE;
         }
-        return found.meeting(set);
+        return found.meeting(clues, set);
     }
 
     public int needless() {
-        return found.needlessSet();
+        return found.needlessSet(clues);
     }
 
     public int core() {
-        return found.coreSet();
+        return found.coreSet(clues);
     }
 
     public int trim() {
-        int stay = found.coreSet();
+        int stay = found.coreSet(clues);
         for (int k = clues.size - 1; k >= 0; k--) {
             if (!isIn(stay, k)) {
                 clues.remove(k);
@@ -150,7 +150,7 @@ public final class GridRiddles {
         if (k < -1 || what < 0 || what > 3) {
             return OUTSIDE;
         }
-        strikes.solve();
+        strikes.solve(clues);
         if (k == -1) {
             return strikes.size;
         }
@@ -161,12 +161,12 @@ public final class GridRiddles {
         if (!isItem(item) || k < 0) {
             return OUTSIDE;
         }
-        strikes.solve();
+        strikes.solve(clues);
         return strikes.leftBehind(item, k);
     }
 
     public int end() {
-        strikes.solve();
+        strikes.solve(clues);
         return strikes.howItEnds();
     }
 
@@ -537,7 +537,7 @@ public final class GridRiddles {
             }
             int lower = clue.low / 4;
             int middle = clue.high == NONE ? lower : clue.high / 4;
-            tiesLast |= middle == 2;
+            tiesLast = tiesLast || middle == 2;
             if (middle == lower) {
                 takePair(clue, lower);
             } else if (middle == 1) {
@@ -670,7 +670,6 @@ public final class GridRiddles {
 
     /** What the ANSWERS tell, kept till the clues change, as it is dear to find. */
     private static final class Answers {
-        private final Clues clues;
         private final Grids grids = new Grids();
         private int knownTotal = NONE;
         private int knownNeedless = NONE;
@@ -679,10 +678,6 @@ public final class GridRiddles {
         private int keptAnswer = NONE;
         private final int[] keptPlaces = new int[ITEMS];
 
-        Answers(Clues clues) {
-            this.clues = clues;
-        }
-
         void forget() {
             knownTotal = NONE;
             knownNeedless = NONE;
@@ -690,12 +685,12 @@ public final class GridRiddles {
             keptAnswer = NONE;
         }
 
-        int meeting(int set) {
+        int meeting(Clues clues, int set) {
             grids.choose(clues, set);
             return grids.total();
         }
 
-        int total() {
+        int total(Clues clues) {
             if (knownTotal == NONE) {
                 grids.choose(clues, clues.all());
                 knownTotal = grids.total();
@@ -703,13 +698,13 @@ public final class GridRiddles {
             return knownTotal;
         }
 
-        int totalWith(Clue further) {
+        int totalWith(Clues clues, Clue further) {
             grids.choose(clues, clues.all());
             grids.take(further);
             return grids.total();
         }
 
-        int placeIn(int i, int item) {
+        int placeIn(Clues clues, int i, int item) {
             if (i != keptAnswer) {
                 grids.choose(clues, clues.all());
                 if (!grids.passOver(i)) {
@@ -723,11 +718,11 @@ public final class GridRiddles {
             return keptPlaces[item];
         }
 
-        int needlessSet() {
+        int needlessSet(Clues clues) {
             if (knownNeedless == NONE) {
                 int set = 0;
                 for (int k = 0; k < clues.size; k++) {
-                    if (isNeedlessAmong(clues.all(), k)) {
+                    if (isNeedlessAmong(clues, clues.all(), k)) {
                         set |= 1 << k;
                     }
                 }
@@ -736,11 +731,11 @@ public final class GridRiddles {
             return knownNeedless;
         }
 
-        int coreSet() {
+        int coreSet(Clues clues) {
             if (knownCore == NONE) {
                 int set = clues.all();
                 for (int k = clues.size - 1; k >= 0; k--) {
-                    if (isNeedlessAmong(set, k)) {
+                    if (isNeedlessAmong(clues, set, k)) {
                         set &= ~(1 << k);
                     }
                 }
@@ -753,7 +748,7 @@ public final class GridRiddles {
          * Without a clue there are more ANSWERS just if a GRID meets the others, but not it; to find one such
          * GRID takes far less than to count them all.
          */
-        private boolean isNeedlessAmong(int set, int clue) {
+        private boolean isNeedlessAmong(Clues clues, int set, int clue) {
             grids.choose(clues, set & ~(1 << clue));
             grids.take(clues.row[clue].opposite());
             return !grids.passOver(0);
@@ -766,29 +761,24 @@ public final class GridRiddles {
         /** An item may lose three places, and one of them all four: 49 steps are never passed. */
         private static final int MOST_STEPS = 64;
 
-        private final Clues clues;
         private final int[] places = new int[ITEMS];
         /** Four numbers a step: RULE, CLUE, ITEM, PLACE. */
         final int[] steps = new int[4 * MOST_STEPS];
         int size = 0;
         private boolean solved = false;
 
-        Strikes(Clues clues) {
-            this.clues = clues;
-        }
-
         void forget() {
             solved = false;
         }
 
-        void solve() {
+        void solve(Clues clues) {
             if (solved) {
                 return;
             }
             Arrays.fill(places, ALL_PLACES);
             size = 0;
             for (int k = 0; k < MOST_STEPS; k++) {
-                boolean struck = strikeByClue() || strikeByOnlyPlace() || strikeByOnlyItem();
+                boolean struck = strikeByClue(clues) || strikeByOnlyPlace() || strikeByOnlyItem();
                 if (!struck || places[steps[4 * k + 2]] == 0) {
                     break;
                 }
@@ -806,7 +796,7 @@ public final class GridRiddles {
             size++;
         }
 
-        private boolean strikeByClue() {
+        private boolean strikeByClue(Clues clues) {
             for (int k = 0; k < clues.size; k++) {
                 Clue clue = clues.row[k];
                 for (int i = 0; i < clue.items(); i++) {

@@ -263,6 +263,10 @@ public final class PromiseTest {
         for (String three : new String[] {"a1=b1|c1", "b1=c1|d1", "c1=d1|a1", "d1=a1|b1", "d1=b1|c1", "a1=d1|c1"}) {
             answersOf(7 * part, three);
         }
+        for (String three : new String[] {"c3=a2|b4", "d2=a4|b3", "d4=a3|c2", "d3=b2|c4", "a2=d3|b1", "b3=c4|a4",
+                "c2=b3|a1", "a3=b4|c1", "b4=a2|d1"}) {
+            eitherIsMet(three);
+        }
         answersOf(ALL / 2, "a1=b1|b2");
         answersOf(ALL / 2, "b1=a1|a2");
         answersOf(ALL / 4, "a1=a2|b1");
@@ -270,6 +274,21 @@ public final class PromiseTest {
         answersOf(0, "a1=a2|a3");
         answersOf(1, "a1@1", "a2@2", "a3@3", "b1@1", "b2@2", "b3@3", "c1@1", "c2@2", "c3@3", "d1@1", "d2@2", "d3@3");
         answersOf(0, "a1@1", "b1@1", "a1!b1");
+    }
+
+    /** With y at 1 and z at 2, x is at 1 or 2; with x at 1 and y at 2, z is at 1. */
+    private static void eitherIsMet(String text) {
+        String x = text.substring(0, 2);
+        String y = text.substring(3, 5);
+        String z = text.substring(6, 8);
+        GridRiddles first = with(text, y + "@1", z + "@2");
+        int item = first.told(0, 1);
+        for (int place = 1; place <= 4; place++) {
+            due("often(x, " + place + ") of " + text, first.often(item, place), place < 3 ? ALL / 64 : 0);
+        }
+        GridRiddles second = with(text, x + "@1", y + "@2");
+        due("answers() of x@1, y@2, " + text, second.answers(), ALL / 64);
+        due("often(z, 1) of " + text, second.often(second.told(0, 3), 1), ALL / 64);
     }
 
     private static void answerIs(GridRiddles x, int i, String places) {
@@ -379,6 +398,10 @@ public final class PromiseTest {
         due("of three that quarrel by twos", with("a1@1", "a2@1", "a3@1").needless(), 7);
         due("of one that is never met", with("b1@1", "a1=a2").needless(), 1);
         due("of twelve", full().needless(), 4095);
+        GridRiddles whole = with("a1@1", "a2@2", "a3@3", "b1@1", "b2@2", "b3@3",
+            "c1@1", "c2@2", "c3@3", "d1@1", "d2@2", "d3@3");
+        due("of twelve that leave one answer", whole.needless(), 0);
+        due("core() of twelve that leave one answer", whole.core(), 4095);
     }
 
     private static void core() {
@@ -464,6 +487,10 @@ public final class PromiseTest {
         stepsAre(with("c1<b1"), is(0, 0, 8, 4), is(0, 0, 4, 1));
         stepsAre(with("c1+b1"), is(0, 0, 8, 4), is(0, 0, 4, 1));
         stepsAre(with("c1~b1"));
+        due("left(0, 64) ahead of place 4", with("b1@4", "a1<b1").left(0, 64), 14);
+        due("left(4, 64) behind place 1", with("a1@1", "a1<b1").left(4, 64), 28);
+        due("left(0, 64) right ahead of place 4", with("b1@4", "a1+b1").left(0, 64), 8);
+        due("left(0, 64) beside place 2", with("b1@2", "a1~b1").left(0, 64), 10);
         stepsAre(with("a1@1", "b1~a1", "c1!b1"), is(0, 0, 0, 2), is(0, 0, 0, 3), is(0, 0, 0, 4),
             is(0, 1, 4, 1), is(0, 1, 4, 3), is(0, 1, 4, 4), is(0, 2, 8, 2),
             is(1, NONE, 1, 1), is(1, NONE, 2, 1), is(1, NONE, 3, 1),
