@@ -13,6 +13,7 @@ final class BoundaryAnswers extends BoundaryPart {
         gridsAreInOrder();
         answersAreAllGrids();
         needlessIfAsMany();
+        needlessOfThreeItems();
         trimByFallingNumbers();
         trimAsManyAsWithAll();
         howManyAnswers();
@@ -100,6 +101,23 @@ final class BoundaryAnswers extends BoundaryPart {
         due("needless() of three, no ANSWER by any two", Riddle.with("a1@1", "a1@2", "a1@3").needless(), 7);
     }
 
+    /** Behind x@p, y@q, z@r a clue x=y|z is met by all that is left, and needless, or by none of it, and needed. */
+    private void needlessOfThreeItems() {
+        sentence("Part 2", "if there are as many ANSWERS without it");
+        for (int places = 0; places < 64; places++) {
+            int p = 1 + places % 4;
+            int q = 1 + places / 4 % 4;
+            int r = 1 + places / 16;
+            boolean met = p == q || p == r;
+            for (String[] of : THREES) {
+                String clue = of[0] + "=" + of[1] + "|" + of[2];
+                Riddle x = Riddle.with(of[0] + "@" + p, of[1] + "@" + q, of[2] + "@" + r, clue);
+                due("needless() of " + clue + " at " + p + q + r, x.needless() & 8, met ? 8 : 0);
+                due("core() of " + clue + " at " + p + q + r, x.core() & 8, met ? 0 : 8);
+            }
+        }
+    }
+
     private void trimByFallingNumbers() {
         sentence("Part 2", "To TRIM: CLUES are looked at by falling numbers");
         due("core() of two that are the same", Riddle.with("a1@1", "a1@1").core(), 1);
@@ -116,7 +134,8 @@ final class BoundaryAnswers extends BoundaryPart {
     }
 
     private void trimAsManyAsWithAll() {
-        sentence("Part 2", "without it and those that went before, there are as many ANSWERS as there are with all CLUES");
+        sentence("Part 2",
+            "without it and those that went before, there are as many ANSWERS as there are with all CLUES");
         due("core() of two quarrels: the first stays", Riddle.with("a1@1", "a1@2", "b1@1", "b1@2").core(), 3);
         due("core() of two that fail alone", Riddle.with("a1=a2", "b1=b2").core(), 1);
         due("core() of one that fails alone, last", Riddle.with("b1@1", "c1<d1", "a1=a2").core(), 4);
@@ -165,7 +184,8 @@ final class BoundaryAnswers extends BoundaryPart {
 
     private void answerNone() {
         sentence("Promise 9", "NONE: there are not so many");
-        for (Riddle x : new Riddle[] {new Riddle(), idle(), solved(), Riddle.with("a1=a2"), Riddle.with("c1@2", "d1~c1")}) {
+        Riddle[] riddles = {new Riddle(), idle(), solved(), Riddle.with("a1=a2"), Riddle.with("c1@2", "d1~c1")};
+        for (Riddle x : riddles) {
             int many = x.answers();
             for (int item : new int[] {0, 7, 15}) {
                 if (many > 0) {
@@ -356,7 +376,11 @@ final class BoundaryAnswers extends BoundaryPart {
     private void trimGo() {
         sentence("Promise 15", "All CLUES that are not in THE CORE go");
         Riddle ends = Riddle.with("a1!a2", "b1@1", "b1!b2", "c1@1", "d1!d2");
+        due("needless() ahead of it", ends.needless(), 21);
+        due("core() ahead of it", ends.core(), 10);
+        due("step(0, 1) ahead of it", ends.step(0, 1), 1);
         due("trim(), the first and the last going", ends.trim(), 2);
+        same("what is seen then", ends.seen(), Riddle.with("b1@1", "c1@1").seen());
         due("told(0, 1)", ends.told(0, 1), 4);
         due("told(1, 1)", ends.told(1, 1), 8);
         due("told(2, 1)", ends.told(2, 1), UNKNOWN);

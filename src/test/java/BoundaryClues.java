@@ -117,7 +117,7 @@ final class BoundaryClues extends BoundaryPart {
             int q = 1 + places / 4 % 4;
             int r = 1 + places / 16;
             int met = p == q || p == r ? 1 : 0;
-            for (String[] of : new String[][] {{"a1", "b2", "c3"}, {"d4", "c1", "b2"}, {"c2", "d3", "a4"}}) {
+            for (String[] of : THREES) {
                 String clue = of[0] + "=" + of[1] + "|" + of[2];
                 Riddle x = Riddle.with(of[0] + "@" + p, of[1] + "@" + q, of[2] + "@" + r, clue);
                 due("answers() of " + clue + " at " + p + q + r, x.answers(), met * ALL / 64);

@@ -12,6 +12,7 @@ final class BoundaryImages extends BoundaryPart {
         imageInPlaceOfAnother();
         imageOutside();
         restoreAsTheyWere();
+        restoreBehindTrim();
         restoreLeavesTheRest();
         imageStays();
         restoreOutside();
@@ -86,16 +87,24 @@ final class BoundaryImages extends BoundaryPart {
         String seen = x.seen();
         x.image(0);
         x.drop(1);
+        same("what is seen behind drop()", x.seen(), Riddle.with("a1=b1|c1", "c1<d1").seen());
         due("restore(0) behind drop()", x.restore(0), 1);
         same("what is seen", x.seen(), seen);
         x.add("a1!a2");
         due("restore(0) behind clue()", x.restore(0), 1);
         same("what is seen", x.seen(), seen);
-        x.add("a1!a2");
-        x.trim();
-        due("restore(0) behind trim()", x.restore(0), 1);
+    }
+
+    private void restoreBehindTrim() {
+        sentence("Promise 20", "They are as they were when they were kept");
+        Riddle x = Riddle.with("a1!a2", "a1=b1|c1", "b1!b2");
+        String seen = x.seen();
+        x.image(1);
+        due("trim()", x.trim(), 1);
+        same("what is seen behind trim()", x.seen(), Riddle.with("a1=b1|c1").seen());
+        due("restore(1) behind trim()", x.restore(1), 1);
         same("what is seen", x.seen(), seen);
-        due("restore(0) with no change between", x.restore(0), 1);
+        due("restore(1) with no change between", x.restore(1), 1);
         same("what is seen", x.seen(), seen);
     }
 
@@ -300,7 +309,8 @@ final class BoundaryImages extends BoundaryPart {
     private void countOutside() {
         sentence("Promise 21", "OUTSIDE.");
         for (Riddle x : new Riddle[] {new Riddle(), solved(), idle().text("a1@")}) {
-            for (int what : new int[] {MIN, MIN + 1, -10, -2, -1, 4, 5, 6, 7, 8, 9, 17, 18, 20, 26, 32, 256, MAX - 1, MAX}) {
+            for (int what : new int[] {MIN, MIN + 1, -10, -2, -1, 4, 5, 6, 7, 8, 9, 17, 18, 20, 26, 32, 256,
+                    MAX - 1, MAX}) {
                 due("count(" + what + ")", x.count(what), OUTSIDE);
             }
         }

@@ -8,6 +8,14 @@ abstract class BoundaryPart {
     static final int[] NO_ITEMS = {MIN, MIN + 1, -16, -2, -1, 16, 17, 32, 256, 65536, MAX - 1, MAX};
     static final int[] NO_IMAGES = {MIN, MIN + 1, -2, -1, 2, 3, 31, 32, 33, 256, MAX - 1, MAX};
 
+    /** x, y and z of three categories: any three, and each of x, y, z in the last of them. */
+    static final String[][] THREES = {
+        {"a1", "b2", "c3"}, {"b1", "c2", "a3"}, {"c1", "a2", "b3"},
+        {"a2", "b3", "d4"}, {"b2", "d3", "a4"}, {"d2", "a3", "b4"},
+        {"a3", "c4", "d1"}, {"c3", "d4", "a1"}, {"d3", "a4", "c1"},
+        {"b4", "c1", "d2"}, {"c4", "d1", "b2"}, {"d4", "b1", "c2"}
+    };
+
     private final Boundary boundary;
 
     BoundaryPart(Boundary boundary) {

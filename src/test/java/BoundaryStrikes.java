@@ -45,7 +45,8 @@ final class BoundaryStrikes extends BoundaryPart {
 
     /** No STEP, some that lead to nothing, as many as solve it, and as many as there can be. */
     private static Riddle[] several() {
-        return new Riddle[] {new Riddle(), idle(), Riddle.with("a2@2"), Riddle.with("a1@1", "a1@2"), solved(), longest()};
+        return new Riddle[] {new Riddle(), idle(), Riddle.with("a2@2"), Riddle.with("a1@1", "a1@2"), solved(),
+            longest()};
     }
 
     private static final int[] STEPS_OF_SEVERAL = {0, 0, 6, 4, 48, 49};
@@ -140,7 +141,8 @@ final class BoundaryStrikes extends BoundaryPart {
         for (int p = 1; p <= 4; p++) {
             due("left(14, 64) of d3@" + p + ", which has no other ITEM", Riddle.with("d3@" + p).left(14, 64), 1 << p);
         }
-        due("left(0, 64) of a1!b1, two PLACES being LEFT to b1", Riddle.with("b1+b2", "b2+b3", "a1!b1").left(0, 64), 30);
+        due("left(0, 64) of a1!b1, two PLACES being LEFT to b1",
+            Riddle.with("b1+b2", "b2+b3", "a1!b1").left(0, 64), 30);
         due("left(0, 64) of a1~b1, all being LEFT to b1", Riddle.with("a1~b1").left(0, 64), 30);
     }
 

@@ -239,14 +239,18 @@ final class BoundaryTerms extends BoundaryPart {
         String[] texts = {"", "e", "a", "a5", "a1|", "a1=0", "a1=b", "a1!b2|", "a1=b2|", "a1=b2|c", "a1=b2|c3!"};
         int[] places = {0, 0, 1, 1, 2, 3, 4, 5, 6, 7, 8};
         for (int i = 0; i < texts.length; i++) {
-            for (Riddle[] twins : new Riddle[][] {{new Riddle(), new Riddle()}, {busy(), busy()}, {crowded(), crowded()}}) {
-                twins[0].wipe();
-                twins[1].wipe();
-                due("clue() of '" + texts[i] + "'", twins[0].text(texts[i]).clue(), FAULT);
-                due("count(2) behind it", twins[0].count(2), places[i]);
-                same("clue() of '" + texts[i] + "' leaves all", twins[0].laidOpen(), twins[1].text(texts[i]).laidOpen());
-            }
+            faultLeavesTheRest(new Riddle(), new Riddle(), texts[i], places[i]);
+            faultLeavesTheRest(busy(), busy(), texts[i], places[i]);
+            faultLeavesTheRest(crowded(), crowded(), texts[i], places[i]);
         }
+    }
+
+    private void faultLeavesTheRest(Riddle x, Riddle twin, String text, int place) {
+        x.wipe();
+        twin.wipe();
+        due("clue() of '" + text + "'", x.text(text).clue(), FAULT);
+        due("count(2) behind it", x.count(2), place);
+        same("clue() of '" + text + "' leaves all", x.laidOpen(), twin.text(text).laidOpen());
     }
 
     private void setsAreNumbers() {

@@ -6,6 +6,8 @@ public final class ModelTest {
         31, 32, 33, 63, 64, 126, 127, 4095, 4096, 331775, 331776, 1 << 24, Integer.MAX_VALUE
     };
 
+    private static final int CALLS_DRAWN = 240, MOST_CALLS = 512;
+
     private final int seed;
     private long state;
     private final GridRiddles program = new GridRiddles();
@@ -20,7 +22,7 @@ public final class ModelTest {
     }
 
     public static void main(String[] args) {
-        for (int seed = 1; seed <= 160 && !CHECKS.anyWrong(); seed++) {
+        for (int seed = 1; seed <= 300 && !CHECKS.anyWrong(); seed++) {
             new ModelTest(seed).run();
         }
         CHECKS.close();
@@ -46,7 +48,7 @@ public final class ModelTest {
                 shuffleHidden(4 * category);
             }
         }
-        while (calls < 440) {
+        while (calls < CALLS_DRAWN) {
             switch (draw(7)) {
                 case 0:
                 case 1: writeClue(); break;
@@ -56,6 +58,7 @@ public final class ModelTest {
             }
         }
         askAllOver();
+        CHECKS.holds("seed " + seed + " keeps to 512 calls: " + calls, calls <= MOST_CALLS);
     }
 
     private void shuffleHidden(int first) {
@@ -162,7 +165,7 @@ public final class ModelTest {
         }
     }
 
-    /** Behind the run, beyond the 512 calls too if it comes to that: this object is no other then. */
+    /** At most 4, 204 and 48 calls, so that with those drawn an object is never used for more than its 512. */
     private void askAllOver() {
         for (String name : new String[] {"answers", "needless", "core", "end"}) {
             call(name, 0, 0);
