@@ -491,6 +491,7 @@ public final class GridRiddles {
      */
     private static final class Grids {
         private static final int ORDERS = Clue.ORDERS, ALL_ORDERS = Clue.ALL_ORDERS;
+        private static final int ALL_GRIDS = ORDERS * ORDERS * ORDERS * ORDERS;
 
         /** Where the pairs of a lower category (a row) and an upper one begin in the field pairs. */
         private static final int[] PAIR = {
@@ -569,8 +570,8 @@ public final class GridRiddles {
         }
 
         int total() {
-            passOver(Integer.MAX_VALUE);
-            return Integer.MAX_VALUE - rest;
+            passOver(ALL_GRIDS);
+            return ALL_GRIDS - rest;
         }
 
         /** Passes over that many GRIDS and looks at the next one: whether there is one. */

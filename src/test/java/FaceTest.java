@@ -2,19 +2,14 @@ import java.lang.reflect.Constructor;
 import java.lang.reflect.Field;
 import java.lang.reflect.Method;
 import java.lang.reflect.Modifier;
-import java.nio.file.Files;
-import java.nio.file.Path;
 import java.util.HashSet;
 import java.util.List;
 import java.util.Set;
 import java.util.TreeSet;
-import java.util.regex.Matcher;
-import java.util.regex.Pattern;
 
-/** The document's face, and what of LANGUAGE.md can be seen by reading the class and its file. */
+/** The document's face: its constants, constructor and methods, and no more that can be seen. */
 public final class FaceTest {
     private static final Checks CHECKS = new Checks("FaceTest");
-    private static final Path SOURCE = Path.of("src/main/java/GridRiddles.java");
 
     private static final Set<String> METHODS = Set.of("say 1", "wipe 0", "fault 0", "clue 0", "drop 1", "told 2",
         "answers 0", "answer 2", "often 2", "together 2", "met 1", "needless 0", "core 0", "trim 0",
@@ -23,11 +18,17 @@ public final class FaceTest {
     private static final List<String> CONSTANTS =
         List.of("UNKNOWN", "OUTSIDE", "STATE", "FULL", "NO", "NONE", "FAULT");
 
+    private static final int[] NUMBERS =
+        {Integer.MIN_VALUE, -7, -2, -1, 0, 1, 2, 3, 4, 11, 12, 15, 16, 49, 64, 4095, Integer.MAX_VALUE};
+
+    private static final List<String> TEXTS = List.of("a1=b2|c3", "d4@2", "a3<b1", "c2~d3", "a1=a1", "b4+a2", "d1!c4",
+        "b3=d2|c1", "a2=c3|d1", "b1=a4", "x", "c1=b2|d4", "d3@4", "c4<a1");
+
     public static void main(String[] args) throws Exception {
         constants();
         members();
         nested();
-        source(Files.readString(SOURCE));
+        longUse();
         CHECKS.close();
     }
 
@@ -76,52 +77,49 @@ public final class FaceTest {
     }
 
     private static void nested() {
-        CHECKS.holds("at most twelve classes", GridRiddles.class.getDeclaredClasses().length < 12);
         for (Class<?> type : GridRiddles.class.getDeclaredClasses()) {
             int modifiers = type.getModifiers();
             CHECKS.holds(type + " is static, not public", Modifier.isStatic(modifiers)
                 && !Modifier.isPublic(modifiers) && !Modifier.isProtected(modifiers));
-            CHECKS.holds(type + " has some twenty fields at most", type.getDeclaredFields().length <= 22);
-            for (Field field : type.getDeclaredFields()) {
-                CHECKS.holds(field + " is final, if it is static", !Modifier.isStatic(field.getModifiers())
-                    || Modifier.isFinal(field.getModifiers()));
-            }
-            for (Method method : type.getDeclaredMethods()) {
-                CHECKS.holds(method + " takes at most seven", method.getParameterCount() <= 7);
-            }
         }
     }
 
-    private static void source(String whole) {
-        String code = whole.replaceAll("(?s)/\\*.*?\\*/", "").replaceAll("//[^\n]*", "");
-        String barred = "throw|throws|try|catch|finally|synchronized|assert|volatile|native|package"
-            + "|hashCode|toString|Random|Thread|System|nanoTime|currentTimeMillis|Exact";
-        Matcher word = Pattern.compile("\\b(" + barred + ")\\b").matcher(code);
-        CHECKS.holds("no barred word", !word.find());
-        CHECKS.holds("no lambda, no method reference", !code.contains("->") && !code.contains("::"));
-        CHECKS.holds("no static block", !Pattern.compile("static\\s*\\{").matcher(code).find());
-        Matcher imports = Pattern.compile("import ([^;]*);").matcher(code);
-        while (imports.find()) {
-            CHECKS.holds("import " + imports.group(1), imports.group(1).equals("java.util.Arrays"));
+    /** What is answered behind the 512th call is free, but no call may ever throw: a throw ends this test. */
+    private static void longUse() {
+        GridRiddles made = new GridRiddles();
+        int mostClues = 0;
+        for (int round = 0; round < NUMBERS.length * NUMBERS.length; round++) {
+            made.wipe();
+            for (char sign : TEXTS.get(round % TEXTS.size()).toCharArray()) {
+                made.say(sign);
+            }
+            made.clue();
+            callAll(made, NUMBERS[round % NUMBERS.length], NUMBERS[round / NUMBERS.length]);
+            mostClues = Math.max(mostClues, made.count(0));
+            if (round % 40 == 39) {
+                made.trim();
+            }
         }
-        boolean plain = true;
-        for (int i = 0; i < whole.length(); i++) {
-            plain &= whole.charAt(i) < 127;
-        }
-        CHECKS.holds("only signs below 127", plain);
-        methodsStayShort(code);
+        CHECKS.due("the most clues in a long use", mostClues, 12);
     }
 
-    private static void methodsStayShort(String code) {
-        int length = 0;
-        int longest = 0;
-        for (String line : code.split("\n")) {
-            boolean ends = line.equals("    }") || line.equals("        }");
-            boolean begins = line.matches(" {4}( {4})?\\S.*\\) \\{");
-            length = begins ? 1 : length + 1;
-            longest = ends ? Math.max(longest, length) : longest;
-            length = ends ? 0 : length;
-        }
-        CHECKS.holds("no method is longer than sixty lines: " + longest, longest > 5 && longest <= 60);
+    private static void callAll(GridRiddles made, int first, int second) {
+        made.say(first);
+        made.fault();
+        made.drop(first);
+        made.told(first, second);
+        made.answers();
+        made.answer(first, second);
+        made.often(first, second);
+        made.together(first, second);
+        made.met(first);
+        made.needless();
+        made.core();
+        made.step(first, second);
+        made.left(first, second);
+        made.end();
+        made.image(first);
+        made.restore(second);
+        made.count(first);
     }
 }
