@@ -215,8 +215,9 @@ public final class LanguageTest extends TreePathScanner<Void, Void> {
     @Override
     public Void visitBinary(BinaryTree tree, Void nothing) {
         if (tree.getKind() == Tree.Kind.DIVIDE || tree.getKind() == Tree.Kind.REMAINDER) {
-            rule(7, tree, "the divisor of " + tree + " is a number above 0", tree.getRightOperand() instanceof LiteralTree
-                && (Integer) ((LiteralTree) tree.getRightOperand()).getValue() > 0);
+            ExpressionTree divisor = tree.getRightOperand();
+            rule(7, tree, "the divisor of " + tree + " is a number above 0",
+                divisor instanceof LiteralTree && (Integer) ((LiteralTree) divisor).getValue() > 0);
         }
         return super.visitBinary(tree, nothing);
     }

@@ -325,7 +325,8 @@ public final class PromiseTest {
         GridRiddles z = with("a1=a2");
         due("answer(0, 0) of none", z.answer(0, 0), NONE);
         due("answer(0, 16) of none", z.answer(0, 16), OUTSIDE);
-        GridRiddles only = with("a1+b1", "b1+c1", "c1+d1", "a2@4", "a3@2", "b2@1", "b3@3", "c2@1", "c3@2", "d2@1", "d3@2");
+        GridRiddles only = with("a1+b1", "b1+c1", "c1+d1",
+            "a2@4", "a3@2", "b2@1", "b3@3", "c2@1", "c3@2", "d2@1", "d3@2");
         due("answers() of one", only.answers(), 1);
         answerIs(only, 0, "1423213431244123");
     }
